@@ -622,7 +622,11 @@ public final class ChanceRings {
             weights[p * MOST_WAYS + i] = w;
         }
 
+        /** All weights of a chance node; at any other one way is taken, and that counts 1. */
         int together(int p) {
+            if (kind[p] != CHANCE) {
+                return 1;
+            }
             int sum = 0;
             for (int i = 0; i < ways[p]; i++) {
                 sum += weights[p * MOST_WAYS + i];
@@ -1116,16 +1120,12 @@ public final class ChanceRings {
             this.net = net;
         }
 
-        /** How often play by these ways goes way i of p, of allOf(p) times. */
+        /** How often play by these ways goes way i of p, of together(p) times. */
         private int share(int[] plan, int p, int i) {
             if (net.kind[p] == CHANCE) {
                 return net.weights[p * MOST_WAYS + i];
             }
             return plan[p] == i ? 1 : 0;
-        }
-
-        private int allOf(int p) {
-            return net.kind[p] == CHANCE ? net.together(p) : 1;
         }
 
         int follow(int[] plan, int p) {
@@ -1159,7 +1159,7 @@ public final class ChanceRings {
             int size = lay(plan, open, 1, 1);
             for (int p = 0; p < net.nodes; p++) {
                 if (place[p] != NONE) {
-                    equations.right[place[p]] = allOf(p);
+                    equations.right[place[p]] = net.together(p);
                 }
             }
             finish(size, out);
@@ -1183,7 +1183,7 @@ public final class ChanceRings {
             for (int p = 0; p < net.nodes; p++) {
                 int own = place[p];
                 if (own != NONE) {
-                    equations.rows[own][own] = (long) outOf * allOf(p);
+                    equations.rows[own][own] = (long) outOf * net.together(p);
                     for (int i = 0; i < net.ways[p]; i++) {
                         int column = place[net.target(p, i)];
                         if (column != NONE) {
@@ -1247,7 +1247,7 @@ public final class ChanceRings {
             }
         }
 
-        /** Worth: no plan of MAX that nothing betters leaves less. */
+        /** Bettered till nothing betters it, a plan leaves worth: then no node gains by any way, for either player. */
         void findWorth(int[] plan, int on, int outOf, Values out) {
             boolean turned = true;
             for (int r = 0; turned && r < MOST_PLANS; r++) {

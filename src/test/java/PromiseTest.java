@@ -649,6 +649,9 @@ public final class PromiseTest {
         above(-2, 6, 1, 2, 1, 6, 1, 9, 1, 2, 1, 0, 0);
         above(-2, 6, 1, 2, 1, 6, 1, 9, 1, 2, 1, 0, 128);
         above(-2, 1, 1, 2, 1, 6, 1, 9, 1, 2, 1, 128, 1);
+        above(-2, 6, 0, 2, 1, 6, 1, 9, 1, 2, 1, 0, 1);
+        above(-2, 128, 1, 2, 1, 6, 1, 9, 1, 2, 1, 0, 1);
+        above(-1, 127, 1, 127, 1, 127, 1, 127, 1, 127, 1, 127, 1);
         is(0, "hold", 0, 0);
         above(-1, 2, 1, 2, 1, 5, 1, 9, 1, 2, 1, 0, 1);
         is(0, "hold", 1, 0);
@@ -803,12 +806,38 @@ public final class PromiseTest {
         }
         is(-1, "undo");
         is(0, "node", 4, 1);
+        undoOfNineKinds();
         is(0, "pay", 4, 1);
         due.is("a fault", c.read("max"), -1003);
         is(0, "undo");
         is(0, "pay", 4, 1);
         due.is("a game", c.read(FORK), 6);
         is(-1, "undo");
+    }
+
+    /** Of nine changes of all kinds the first one is forgotten. */
+    private void undoOfNineKinds() {
+        is(9, "node", 3, 1);
+        String[] changes = {"pay 3 1", "hold 0 0", "weigh 2 0 1", "pay 5 5", "hold 1 1", "weigh 2 2 2", "free 0", "hold 1 0", "pay 4 4"};
+        for (String change : changes) {
+            due.is(change, said(change), 0);
+        }
+        int[][] behind = {{4, 1, 0}, {1, 3, 1}, {0, 3, 0}, {2, 2, 1}, {1, 3, -1}, {5, 1, 0}, {2, 0, 2}, {0, 3, -1}};
+        for (int k = 0; k < 8; k++) {
+            is(7 - k, "undo");
+            int[] b = behind[k];
+            if (b[0] == 2) {
+                is(b[2], "way", 2, b[1], 1);
+            } else {
+                is(b[2], "node", b[0], b[1]);
+            }
+        }
+        is(-1, "undo");
+        is(1, "node", 3, 1);
+        for (int p = 0; p < 2; p++) {
+            is(1, "way", p, 0, 1);
+            is(1, "way", p, 1, 1);
+        }
     }
 
     private void p34p35Images() {
@@ -902,12 +931,12 @@ public final class PromiseTest {
         is(0, "tried", 0);
     }
 
-    private void said(String call) {
+    private long said(String call) {
         String[] words = call.split(" ");
         int[] a = new int[words.length - 1];
         for (int i = 0; i < a.length; i++) {
             a[i] = Integer.parseInt(words[i + 1]);
         }
-        c.call(words[0], a);
+        return c.call(words[0], a);
     }
 }

@@ -8,7 +8,7 @@ public final class RandomRunsTest {
         "fault", "node", "way", "worth", "best", "good", "tried", "left", "improve", "improveAll", "stopped", "within",
         "forced", "rings", "ring", "moves", "sets", "rank", "play", "often", "text", "byteAt", "count", "worth", "best",
         "left", "moves", "good", "stopped"};
-    private static final String[] CHANGES = {"hold", "hold", "free", "weigh", "weigh", "pay", "undo", "image", "restore"};
+    private static final String[] CHANGES = {"hold", "hold", "free", "weigh", "weigh", "pay", "pay", "undo", "image"};
     private static final int RUNS = Integer.getInteger("runs", 150);
     private static final int CALLS = 400;
 
@@ -32,14 +32,16 @@ public final class RandomRunsTest {
 
     private void run() {
         boolean big = random.nextInt(12) == 0;
+        int games = random.nextInt(3) == 0 ? 0 : 4;
+        int changes = random.nextInt(3) == 0 ? 60 : 20;
         while (calls < CALLS) {
             int d = random.nextInt(100);
-            if (calls == 0 || d < 4) {
+            if (oracle.game().size() == 0 && random.nextInt(3) > 0 || d < games) {
                 tellGame(big);
-            } else if (d < 20) {
-                String name = CHANGES[random.nextInt(CHANGES.length)];
+            } else if (d < changes) {
+                String name = random.nextInt(20) == 0 ? "restore" : CHANGES[random.nextInt(CHANGES.length)];
                 check(name, arguments(name));
-            } else if (d < 24) {
+            } else if (d < changes + 4) {
                 tellFractions();
             } else {
                 String name = ASKS[random.nextInt(ASKS.length)];
