@@ -12,6 +12,7 @@ public final class HeavyTest {
         }
         for (int k = 0; k < 6; k++) {
             test.compare(test.heavy(0, 8, 2), false);
+            test.compare(test.heavy(0, 8, k < 2 ? 3 : 2), false);
             test.compare(test.heavy(2, 6, 3), false);
         }
         test.slowest();

@@ -9,7 +9,7 @@ public final class RandomRunsTest {
         "forced", "rings", "ring", "moves", "sets", "rank", "play", "often", "text", "byteAt", "count", "worth", "best",
         "left", "moves", "good", "stopped"};
     private static final String[] CHANGES = {"hold", "hold", "free", "weigh", "weigh", "pay", "pay", "undo", "image"};
-    private static final int RUNS = Integer.getInteger("runs", 150);
+    private static final int RUNS = Integer.getInteger("runs", 1500);
     private static final int CALLS = 400;
 
     private final Random random;
