@@ -479,7 +479,8 @@ public final class ChanceRings {
         int covered = 0;
         for (int i = 0; i < net.ways[p]; i++) {
             int q = net.target(p, i);
-            if (net.canTake(p, i) && tape.numerator(p) * tape.denominator(q) >= tape.numerator(q) * tape.denominator(p)) {
+            boolean covers = tape.numerator(p) * tape.denominator(q) >= tape.numerator(q) * tape.denominator(p);
+            if (net.canTake(p, i) && covers) {
                 covered++;
             }
         }
@@ -1154,7 +1155,7 @@ public final class ChanceRings {
             }
         }
 
-        /** The moves expected to an end; from open nodes no ring may be come to. */
+        /** The moves expected to an end; all open nodes must be such that no ring can be come to from them. */
         void expectMoves(int[] plan, int open, Values out) {
             int size = lay(plan, open, 1, 1);
             for (int p = 0; p < net.nodes; p++) {
@@ -1288,8 +1289,8 @@ public final class ChanceRings {
         }
 
         /**
-         * Nodes with left above 0: those from which MIN can't keep play off all ends that pay. From these no ring
-         * can be come to, whatever MIN does, so that its ways can be bettered from any of its plans.
+         * Nodes with left above 0: those from which MIN can't keep play off all ends that pay. Among these lies no
+         * ring, whatever MIN does (it would bring 0), so that its ways can be bettered from any of its plans.
          */
         private int unavoidable(int[] plan) {
             int bits = net.payingEnds();
