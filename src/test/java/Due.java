@@ -16,6 +16,10 @@ final class Due {
         }
     }
 
+    int asked() {
+        return asked;
+    }
+
     void holds(String what, boolean is) {
         is(what, is ? 1 : 0, 1);
     }
