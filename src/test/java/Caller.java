@@ -1,14 +1,35 @@
+import java.lang.reflect.Method;
+import java.util.HashMap;
+import java.util.Map;
 import java.util.NoSuchElementException;
 
 /** Calls the program by a method's name, so that runs can be written, drawn and compared. */
 final class Caller {
+    /** No answer of any call: something was thrown that no promise tells of. */
+    static final long WRONG_THROW = Oracle.THROWS + 1;
+
+    /** How many numbers each method takes. */
+    private static final Map<String, Integer> NUMBERS = new HashMap<>();
+
+    static {
+        for (Method m : ChanceRings.class.getMethods()) {
+            NUMBERS.put(m.getName(), m.getParameterCount());
+        }
+    }
+
     final ChanceRings x = new ChanceRings();
 
     long call(String name, int... a) {
+        if (a.length != NUMBERS.getOrDefault(name, -1)) {
+            throw new AssertionError("the test calls " + name + java.util.Arrays.toString(a));
+        }
         try {
             return answer(name, a);
         } catch (NoSuchElementException e) {
             return Oracle.THROWS;
+        } catch (RuntimeException e) {
+            System.out.println(name + java.util.Arrays.toString(a) + " throws " + e);
+            return WRONG_THROW;
         }
     }
 
@@ -49,7 +70,7 @@ final class Caller {
             case "image": return x.image(a[0]) ? 1 : 0;
             case "restore": return x.restore(a[0]) ? 1 : 0;
             case "count": return x.count(a[0]);
-            default: throw new IllegalArgumentException(name);
+            default: throw new AssertionError(name);
         }
     }
 

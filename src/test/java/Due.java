@@ -25,6 +25,9 @@ final class Due {
     }
 
     private static String show(long answer) {
+        if (answer == Caller.WRONG_THROW) {
+            return "a throw that is not promised";
+        }
         return answer == Oracle.THROWS ? "a throw" : Long.toString(answer);
     }
 

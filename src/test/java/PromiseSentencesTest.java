@@ -87,7 +87,7 @@ public final class PromiseSentencesTest {
         s.is("feed 0x20712071 0x3b000000 -1 -1 -1 = 40; end 25 = true; game = 2; node 0 1 = 9; way 1 0 0 = 1");
         // what comes behind a tape that was cut off stands where it was cut: max q; way q q;
         s.is("feed 0x6d617820 0x713b2121 -1 -1 -1 = 20; end 6 = true; feed 0x77617920 0x7120713b 0x80ff0000 0 0 = 26");
-        s.is("end 14 = true; game = 1; feed 0x6d617820 0x713b8000 0 0 0 = 20; end 7 = true; game = -1006");
+        s.is("end 14 = true; game = 1; feed 0x6d617820 0xf13b7761 0x7920f120 0xf13b0000 0 = 20; end 14 = true; game = -1004");
 
         s.says("NONE, and none come, if it would have more than 440.");
         s.fresh();
@@ -197,7 +197,7 @@ public final class PromiseSentencesTest {
         s.is("node 0 1 = NONE; node 1 1 = NONE; node 2 1 = NONE; node 3 1 = 9; node 4 1 = 2; node 5 1 = 0");
         s.is("node 0 2 = 2; node 1 2 = 2; node 2 2 = 3; node 3 2 = 0; node 5 2 = 0");
         s.is("node 0 3 = NONE; node 1 3 = NONE; node 2 3 = NONE; node 3 3 = NONE");
-        s.is("hold 0 0 = 0; hold 1 1 = 0; node 0 3 = 0; node 1 3 = 1; free 0 = 0; node 0 3 = NONE");
+        s.is("hold 0 0 = 0; hold 1 1 = 0; node 0 3 = 0; node 1 3 = 1; node 0 2 = 2; free 0 = 0; node 0 3 = NONE");
 
         s.says("NoSuchElementException: no such ones.");
         s.is("node 6 0 = !; node 11 0 = !; node 12 0 = !; node ? 0 = !; node 0 4 = !; node 0 -1 = !; node 0 ? = !; node ? ? = !");
@@ -575,7 +575,10 @@ public final class PromiseSentencesTest {
         below(FORK_LEFT, "NONE");
         below("0/1 0/1 0/1 0/1 0/1 0/1", "NONE");
         below("126/63 127/64 127/26 117/13 2/1 0/127", "NONE");
-        s.is("improve = 1");
+        s.is("weigh 2 0 1 = 0");
+        below("2/1 2/1 11/3 9/1 2/1 0/1", "NONE");
+        below("2/1 2/1 121/33 9/1 2/1 0/1", "NONE");
+        s.is("undo = 0; improve = 1");
         below(FORK_WORTH, "NONE");
         s.fresh();
         s.is("below = NONE");
@@ -588,7 +591,10 @@ public final class PromiseSentencesTest {
         below("2/1 2/1 5/1 127/14 3/1 1/1", "3");
         below("2/1 2/1 5/1 9/1 3/1 1/1", "4");
         below("2/1 2/1 5/1 9/1 2/1 1/127", "5");
-        s.is("improve = 1");
+        s.is("weigh 2 0 1 = 0");
+        below("2/1 2/1 37/10 9/1 2/1 0/1", "2");
+        below("2/1 2/1 122/33 9/1 2/1 0/1", "2");
+        s.is("undo = 0; improve = 1");
         below("6/1 2/1 61/10 9/1 2/1 0/1", "2");
 
         s.says("-2.");
@@ -683,6 +689,7 @@ public final class PromiseSentencesTest {
         String full = fullOfChance();
         s.same("bytes of it", full.length(), 400);
         s.reads(full);
+        s.is("text = 422");
         s.tells(full.trim().replaceAll("(way \\w+ \\w+);", "$1 1;"));
 
         s.section("Promise 32: byteAt");
@@ -704,19 +711,16 @@ public final class PromiseSentencesTest {
         s.is("text = 8; byteAt 7 = 59; byteAt 8 = NONE");
     }
 
+    /** Fifteen ways, none of which tells its weight. */
     private static String fullOfChance() {
         StringBuilder text = new StringBuilder();
-        for (char c = 'a'; c <= 'e'; c++) {
-            text.append("chance ").append(String.valueOf(c).repeat(6)).append(";");
+        for (char c = 'a'; c <= 'i'; c++) {
+            String name = String.valueOf(c).repeat(6);
+            text.append(c <= 'e' ? "chance " + name + ";" : "end " + name + " 3;");
         }
-        text.append("end g 1;");
-        for (int k = 0; k < 18; k++) {
-            String from = String.valueOf((char) ('a' + k / 4)).repeat(6);
-            if (k % 4 < 3) {
-                text.append("way ").append(from).append(" ").append("eeeeee").append(";");
-            }
+        for (int k = 0; k < 15; k++) {
+            text.append("way ").append(String.valueOf((char) ('a' + k / 3)).repeat(6)).append(" eeeeee;");
         }
-        text.append("way eeeeee g;");
         return text + " ".repeat(400 - text.length());
     }
 

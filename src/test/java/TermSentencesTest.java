@@ -375,7 +375,7 @@ public final class TermSentencesTest {
 
         s.says("at an END it is over, and pays that;");
         s.game("end g 0;end h 9;");
-        s.is("worth 0 = 0/1; worth 1 = 9/1; play 1 0 60 = 1; within 1 0 = 9/1; moves 1 = 0/1");
+        s.is("worth 0 = 0/1; worth 1 = 9/1; play 1 0 60 = 1; within 1 0 = 9/1; within 1 8 = 9/1; stopped 1 2 = 9/1; moves 1 = 0/1");
 
         s.says("PLAY that never ends pays 0.");
         s.game("max a;min b;way a a;way b b;");
@@ -408,6 +408,10 @@ public final class TermSentencesTest {
         s.is("forced 2 8 = 11; forced 1 16 = 16; moves 0 = 2/1; sets 1 0 = 27; sets 2 0 = 2; play 0 0 2 = 3; often 0 0 9 0 = 81");
         s.fractions("9/1 9/1 27/4 9/1 2/1 0/1");
         s.is("above = NONE");
+        s.game("max a;min b;end g 2;end h 7;way a h;way a g;way b g;way b h;");
+        s.is("hold 0 1 = 0; hold 1 1 = 0; worth 0 = 2/1; worth 1 = 7/1; best 0 = 1; best 1 = 1; good 0 = 2; good 1 = 2; tried 0 = 1");
+        s.is("left 0 = 2/1; left 1 = 7/1; improve = 0; stopped 0 2 = 1/1; stopped 1 2 = 7/2; within 0 1 = 2/1; within 1 1 = 7/1");
+        s.is("forced 1 8 = 10; forced 2 4 = 5; play 0 0 1 = 2; play 1 0 1 = 3; often 0 0 3 0 = 6");
     }
 
     private void bestPlans() {
@@ -419,6 +423,8 @@ public final class TermSentencesTest {
         // by way 0 MIN would bring play back to a for ever
         s.game("max a;min m;end g 3;end h 4;way a m;way a g;way m a;way m h;");
         s.is("worth 1 = 3/1; best 0 = 1");
+        s.game("max a;min m;end g 3;way a m;way a g;way m g;way m a;");
+        s.is("worth 0 = 3/1; worth 1 = 3/1; best 0 = 1; best 1 = 0");
         // chance that comes back for ever is no way out, chance that leads on is one
         s.game("max a;chance c;end g 4;way a c;way a g;way c a;way c a;");
         s.is("worth 0 = 4/1; worth 1 = 4/1; best 0 = 1");
@@ -635,6 +641,7 @@ public final class TermSentencesTest {
         proves("7/1 3/1 7/1", "NONE");
         proves("3/1 3/1 7/1", "0");
         proves("125/18 3/1 7/1", "0");
+        proves("71/10 3/1 72/10", "0");
         proves("14/2 3/1 21/3", "NONE");
         s.is("hold 0 0 = 0");
         proves("3/1 3/1 7/1", "NONE");
