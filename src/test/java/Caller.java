@@ -74,16 +74,22 @@ final class Caller {
         }
     }
 
-    /** Feeds bytes twenty at a time and cuts off what fills up the last feed; the tape must be empty before. */
-    void tell(String bytes) {
-        for (int[] five : fives(bytes)) {
+    /** Feeds bytes twenty at a time, behind what is there, and cuts off what fills up the last feed. */
+    static void tell(ChanceRings x, String bytes) {
+        int before = x.count(7);
+        for (int at = 0; at < bytes.length(); at += 20) {
+            int[] five = new int[5];
+            for (int i = at; i < at + 20 && i < bytes.length(); i++) {
+                five[(i - at) / 4] |= (bytes.charAt(i) & 255) << 24 - 8 * (i % 4);
+            }
             x.feed(five[0], five[1], five[2], five[3], five[4]);
         }
-        x.end(bytes.length());
+        x.end(before + bytes.length());
     }
 
+    /** The tape must be empty before. */
     int read(String text) {
-        tell(text);
+        tell(x, text);
         return x.game();
     }
 

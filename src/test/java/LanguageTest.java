@@ -17,6 +17,7 @@ import java.util.stream.Collectors;
 
 /** The face as the document writes it, and those rules of LANGUAGE.md that the source can be searched for. */
 public final class LanguageTest {
+    private static final Path DOCUMENT = Path.of("../shared/DOC.md");
     private static final String SOURCE = "src/main/java/ChanceRings.java";
     private static final String FACE = "int feed(int,int,int,int,int);boolean end(int);int game();int fault();int node(int,int)!;"
         + "int way(int,int,int)!;long worth(int,int)!;int best(int);int good(int);int tried(int);long left(int,int)!;"
@@ -34,6 +35,9 @@ public final class LanguageTest {
 
     private void run() throws IOException {
         face();
+        if (Files.exists(DOCUMENT)) {
+            faceOfDocument(Files.readString(DOCUMENT));
+        }
         classesInside();
         source(Files.readString(Path.of(SOURCE)));
         due.finish();
@@ -73,6 +77,22 @@ public final class LanguageTest {
         Constructor<?>[] makers = type.getDeclaredConstructors();
         due.holds("one public constructor", makers.length == 1 && Modifier.isPublic(makers[0].getModifiers())
             && makers[0].getParameterCount() == 0);
+    }
+
+    /** What the document writes under 'The public face' is what is looked for above. */
+    private void faceOfDocument(String document) {
+        int start = document.indexOf("public final class ChanceRings {");
+        due.holds("the document writes a face", start >= 0);
+        String block = document.substring(Math.max(start, 0)).split("\n\\}")[0];
+        due.holds("its constant", block.contains("public static final int NONE = -1;"));
+        due.holds("its constructor", block.contains("public ChanceRings();"));
+        Set<String> told = new TreeSet<>();
+        Matcher m = Pattern.compile("public (\\w+ \\w+)\\(([^)]*)\\)( throws NoSuchElementException)?;").matcher(block);
+        while (m.find()) {
+            told.add(m.group(1) + "(" + m.group(2).replaceAll(" \\w+(,|$) ?", "$1") + ")" + (m.group(3) == null ? "" : "!"));
+        }
+        due.holds("its methods " + told, told.equals(new TreeSet<>(Arrays.asList(FACE.split(";")))));
+        due.is("its lines", block.lines().filter(line -> line.trim().startsWith("public")).count(), told.size() + 3);
     }
 
     private void classesInside() {

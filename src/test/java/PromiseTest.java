@@ -147,7 +147,7 @@ public final class PromiseTest {
         fresh(FORK, 6);
         is(0, "count", 7);
         is(0, "hold", 0, 1);
-        c.tell("max q");
+        Caller.tell(c.x, "max q");
         is(-1005, "game");
         is(0, "count", 7);
         is(1, "node", 0, 3);
@@ -170,7 +170,7 @@ public final class PromiseTest {
         for (int k = 0; k < texts.length; k++) {
             c.read(texts[k]);
             is(k + 1, "fault");
-            c.tell("x");
+            Caller.tell(c.x, "x");
             is(k + 1, "fault");
             is(1, "end", 0);
         }
@@ -663,13 +663,13 @@ public final class PromiseTest {
     }
 
     private void above(int answer, int... numbers) {
-        c.tell(told(numbers));
+        Caller.tell(c.x, told(numbers));
         is(answer, "above");
         is(0, "count", 7);
     }
 
     private void below(int answer, int... numbers) {
-        c.tell(told(numbers));
+        Caller.tell(c.x, told(numbers));
         is(answer, "below");
         is(0, "count", 7);
     }
@@ -853,7 +853,7 @@ public final class PromiseTest {
         is(0, "pay", 3, 1);
         is(0, "weigh", 2, 0, 1);
         is(0, "free", 0);
-        c.tell("abc");
+        Caller.tell(c.x, "abc");
         is(1, "restore", 0);
         is(3, "count", 7);
         is(-1, "undo");

@@ -127,11 +127,7 @@ final class Sentences {
 
     /** Puts bytes on the tape, behind what is there. */
     void tape(String bytes) {
-        int before = (int) c.call("count", 7);
-        for (int[] five : Caller.fives(bytes)) {
-            c.x.feed(five[0], five[1], five[2], five[3], five[4]);
-        }
-        c.x.end(before + bytes.length());
+        Caller.tell(c.x, bytes);
     }
 
     /** Puts a fraction for each node on the tape: "6/1 2/1 ..". */

@@ -65,12 +65,12 @@ public final class TermSentencesTest {
             + " brought to an end that pays; numbers that prove from above, from below; ranks, plays by draws, networks as"
             + " texts, undone, images. ==== 1.");
         s.says("An object is used for at most 512 calls after it has been made; what later calls answer is free.");
-        // 6 feeds, end(), game(), fault(), then 71 times seven calls, and six more: the last one is the 512th
+        // count(), 6 feeds, end(), game(), fault(), then 71 times seven calls, and five more: the last one is the 512th
         s.game(FORK);
         for (int k = 0; k < 71; k++) {
             s.is("hold 0 0 = 0; worth 0 = 2/1; undo = 0; worth 0 = 6/1; node 6 0 = !");
         }
-        s.is("count 0 = 6; fault = 0; worth 0 = 6/1; rank 0 = 3; worth 2 0 = 6");
+        s.is("count 0 = 6; worth 0 = 6/1; rank 0 = 3; worth 2 0 = 6");
     }
 
     // ---------------------------------------------------------------- the grammar and its limits
